@@ -69,6 +69,10 @@ public final class QuestionsTest {
         Due.is("22 changes nothing: book", x.book(-1, 0), 1);
         x.by(Due.read(x, "spreads 10; cools 1;"));
         Due.is("22 by THE TEXT", x.foretold(1, 0, 0), 3);
+        x.by(Due.read(x, "cools wood + wind; spreads warm (1 - who);"));
+        // wind 3 then
+        Due.is("22 laws as all is then", x.foretold(1, 0, 1), 6);
+        x.by(0);
         Due.is("22 its heat", x.foretold(1, 0, 1), 8);
         Due.is("22 one is burnt", x.foretold(2, 0, 2), 1);
         Due.is("22 whoever house is", x.foretold(3, LEAST, 2), 2);
@@ -446,6 +450,12 @@ public final class QuestionsTest {
         Due.is("35 anew", x.bid(3, 0), true);
         Due.is("36 anew", x.leave(1, false), 2);
         Due.is("36 without houses", new CoverFires().leave(3, true), 0);
+        CoverFires eight = houses(8);
+        eight.bid(7, 3);
+        eight.bid(0, 4);
+        Due.is("36 pays what the last bids", eight.leave(1, true), 3);
+        eight.bid(7, 5);
+        Due.is("36 pays what the first bids", eight.leave(1, true), 4);
     }
 
     private static void cooling() {
@@ -596,6 +606,10 @@ public final class QuestionsTest {
         Due.is("45 bids", x.leave(0, true), 7);
         Due.is("45 seen", x.about(4), 1);
         Due.is("45 began", x.began(1), 1);
+        x.seen(-1, 0, true);
+        x.seen(0, 4, false);
+        x.back();
+        Due.is("45 seen as it caught", x.began(1), 1);
         Due.is("45 cooled", x.about(5), 1);
         Due.is("45 heat", x.of(0, 3), 3);
         Due.is("45 book", x.book(-1, 0), 1);

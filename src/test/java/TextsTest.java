@@ -339,6 +339,7 @@ public final class TextsTest {
         ask("2 # 2", false);
         ask("not 2 # 2", true);
         ask("not odd 1", false);
+        ask("not odd 2 and odd 1", true);
         ask("not not odd 1", true);
         ask("odd 1 and odd 2", false);
         ask("odd 2 and odd 1", false);
