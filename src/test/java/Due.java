@@ -31,16 +31,19 @@ final class Due {
 
     /** Feeds a text's characters as bytes; false if they don't all come onto the empty tape. */
     static boolean tape(CoverFires x, String text) {
-        if (x.end(0) != 0) {
-            return false;
-        }
+        return x.end(0) == 0 && tapeMore(x, text) && x.end(text.length()) == text.length();
+    }
+
+    /** Behind what the tape has: twenty bytes at a time, the last ones filled up with 0. */
+    static boolean tapeMore(CoverFires x, String text) {
+        int had = x.about(6);
         for (int at = 0; at < text.length(); at += 20) {
             if (x.feed(four(text, at), four(text, at + 4), four(text, at + 8), four(text, at + 12),
-                    four(text, at + 16)) != at + 20) {
+                    four(text, at + 16)) != had + at + 20) {
                 return false;
             }
         }
-        return x.end(text.length()) == text.length();
+        return true;
     }
 
     static int four(String text, int at) {
