@@ -975,7 +975,7 @@ public final class EdgesOfQuestionsTest {
         x.seen(-1, 0, true);
         x.cooled(-1, 0);
         for (int i = 0; i < 3; i++) {
-            x.seen(1 - i % 2, 5 + i, i == 1);
+            x.seen(1 - i % 2, 5 + 3 * i * i, i == 1);
             x.cooled(1 - i % 2, 6 + i);
         }
         for (int h = 0; h < 24; h += 4) {
