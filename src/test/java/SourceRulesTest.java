@@ -28,6 +28,7 @@ public final class SourceRulesTest {
         words(bare(source));
         lengths(bare(source));
         face();
+        asTheDocument(source);
         for (Class<?> inside : allClasses()) {
             members(inside);
         }
@@ -103,6 +104,26 @@ public final class SourceRulesTest {
         }
         Due.is("the face's constants", fields.equals(List.of("NONE")), true);
         Due.is("one constructor", face.getDeclaredConstructors().length, 1);
+    }
+
+    /** The public lines of the source are those of the document's code block, each type and name alike. */
+    private static void asTheDocument(String source) throws IOException {
+        String document = Files.readString(Path.of("../shared/DOC.md"), StandardCharsets.UTF_8);
+        Set<String> due = publicLines(document);
+        Set<String> made = publicLines(source);
+        Due.is("lines of the document's face", due.size(), 48);
+        Due.is("the face is the document's", made.equals(due), true);
+        made.removeAll(due);
+        Due.is("more than the document's face: " + made, made.isEmpty(), true);
+    }
+
+    private static Set<String> publicLines(String text) {
+        Set<String> lines = new TreeSet<>();
+        Matcher matcher = Pattern.compile("(?m)^ *(public [^;{\n]*?) *[;{]$").matcher(text);
+        while (matcher.find()) {
+            lines.add(matcher.group(1));
+        }
+        return lines;
     }
 
     private static List<Class<?>> allClasses() {
